@@ -11,7 +11,7 @@ public final class PaidRests {
     private static final int MOST_LETTERS = 200, MOST_BARS = 12, MOST_PARTS = 5, MOST_PLAYERS = 5;
     private static final int MOST_UNDONE = 10, MOST_NOTED = 6, MOST_IMAGES = 2;
     private static final int MOST_EVENINGS = 999, MOST_SAVED = 9999, FAR_EVENINGS = 300;
-    private static final int LOUDEST = 45, MOST_RICH = 999, NOBODY = -1, NOBODY_SLEPT = 32;
+    private static final int MOST_PAY = 60 * MOST_BARS, LOUDEST = 45, MOST_RICH = 999, NOBODY = -1, NOBODY_SLEPT = 32;
     private static final int[] AWAKE = {0, 0, 0, 0, 0};
 
     private final Reader reader = new Reader();
@@ -916,7 +916,7 @@ public final class PaidRests {
                 }
             }
             stage.letSleep(AWAKE);
-            int poorest = Integer.MAX_VALUE;
+            int poorest = MOST_PAY;
             for (int m = 0; m < told.players; m++) {
                 int pay = stage.pay(m);
                 if (pay < told.needs[m]) {

@@ -197,6 +197,8 @@ public final class PromisesTest {
         fault("m12;", 3);
         fault("b2;p1nr;x;b0;", 8);
         fault(((char) 200) + "b2;", 0);
+        fault("f" + ((char) 255) + ";", 1);
+        fault("f" + ((char) 0) + ";", 1);
     }
 
     private static void scoreNumbers() {
@@ -248,7 +250,10 @@ public final class PromisesTest {
         due.is("4: FINE at first", 5, x.count(4));
         due.is("4: share(-1)", 6, x.share(-1));
         due.is("4: what was traced stays", 1, x.trace());
+        due.is("4: read anew", 4, Due.tell(x, "b3;w30;f30;m1 0;"));
         due.is("4: no text tells nothing", 0, x.score());
+        due.is("4: count(3)", 12, x.count(3));
+        due.is("4: count(4)", 5, x.count(4));
         due.is("4: count(0)", 0, x.count(0));
         due.is("4: count(1)", 0, x.count(1));
         due.is("4: count(2)", 8, x.count(2));
@@ -299,6 +304,7 @@ public final class PromisesTest {
         PaidRests z = due.told("b2;m1 24;m1 12;", 3);
         due.is("6: 12 is below 24", 0, z.player(0, 4));
         due.is("6: PAY just NEEDS", 1, z.player(1, 4));
+        due.is("6: PAY is 1 below NEEDS", 0, due.told("b1;m1 13;", 2).player(0, 4));
         for (int wrong : new int[] {-1, 3, LOW, HIGH}) {
             due.is("6: player(" + wrong + ", 0)", BAD, x.player(wrong, 0));
         }
@@ -334,6 +340,11 @@ public final class PromisesTest {
         y.sleeps(0, 0, 1);
         due.is("7: PAY below 0", -27, y.coins(0, 0));
         due.is("7: the others' PAY", 3, y.coins(1, 0));
+        PaidRests five = quintet(0);
+        int[] pays = {16, 22, 22, 28, 28};
+        for (int m = 0; m < 5; m++) {
+            due.is("7: of five: coins(" + m + ", 0)", pays[m], five.coins(m, 0));
+        }
         for (int wrong : new int[] {-1, 3, LOW, HIGH}) {
             due.is("7: coins(" + wrong + ", 0)", NO, x.coins(wrong, 0));
         }
@@ -529,6 +540,11 @@ public final class PromisesTest {
 
     private static void shareChooses() {
         shareIs("b2;p1nr;p1rn;m1 0;m1 0;", 5, 12, 0, 1);
+        due.is("13: the most that can be paid", 720, due.told("b12;m1 99;w60;", 3).share(-1));
+        // all ways are alike: the first
+        shareIs("b2;p1rr;p1rr;m1 0;m1 0;", 5, 12, 0, 0);
+        // each has a bar of his own, in which he does not rest: 4 bars by 12 / 4
+        shareIs("b5;p1rrrrn;p1rrrnr;p1rrnrr;p1rnrrr;p1nrrrr;m1 0;m1 0;m1 0;m1 0;m1 0;", 11, 12, 0, 1, 2, 3, 4);
         // alike for both, but the second one needs more than what he would have
         shareIs("b3;p1nnr;p1rrn;m9 0;m9 24;", 5, 12, 0, 1);
         shareIs("b3;p1nnr;p1rrn;m9 24;m9 0;", 5, 12, 1, 0);
@@ -593,6 +609,18 @@ public final class PromisesTest {
         z.gives(0, 0);
         z.gives(1, 1);
         due.is("15: not more than it is", NONE, z.exchange());
+        PaidRests u = due.told("b2;p1rr;p1rr;p1rr;p1nn;p1nr;m9 0;m9 0;", 8);
+        u.gives(3, 0);
+        u.gives(4, 1);
+        due.is("15: the first nobody's with 3", 3, u.exchange());
+        PaidRests v = due.told("b1;p1n;p1n;p1n;p1r;m9 0;m9 0;", 7);
+        v.gives(0, 0);
+        v.gives(1, 0);
+        v.gives(2, 1);
+        due.is("15: player 0 plays on with either, player 1 has just 2", 23, v.exchange());
+        v.gives(1, 1);
+        v.gives(2, 1);
+        due.is("15: now it is player 0 who has one", 3, v.exchange());
     }
 
     private static void leftOut() {
@@ -626,6 +654,25 @@ public final class PromisesTest {
         z.gives(0, 0);
         z.sleeps(0, 0, 1);
         due.is("16: the FINE stays", NONE, z.leftOut(0, 0));
+        PaidRests five = quintet(32);
+        due.is("16: paid are 16", 16, five.coins(0, 0));
+        due.is("16: bars 8 .. 11 bring 2, 2, 4, 12", 2, five.leftOut(0, 0));
+        due.is("16: just 4 and 12 are enough", 3072, five.leftOut(0, 1));
+        due.is("16: 2 and 12", 2304, quintet(30).leftOut(0, 1));
+        due.is("16: 2 of the lowest", 256, quintet(18).leftOut(0, 1));
+        due.is("16: all", 4, quintet(36).leftOut(0, 0));
+        due.is("16: all are not enough", NONE, quintet(37).leftOut(0, 0));
+    }
+
+    /** Five players, all of whom play in bar 11, three in bar 10, just the first in bars 8, 9, nobody else. */
+    private static PaidRests quintet(int needs) {
+        String low = "rrrrrrrr";
+        PaidRests x = due.told("b12;p1" + low + "nnnn;p1" + low + "rrnn;p1" + low + "rrnn;p1" + low + "rrrn;p1" + low
+            + "rrrn;m9 " + needs + ";m9 0;m9 0;m9 0;m9 0;", 11);
+        for (int p = 0; p < 5; p++) {
+            x.gives(p, p);
+        }
+        return x;
     }
 
     /** Player 0 has four bars to leave out: they would bring 6, 12, 6, 12; he is paid nothing. */
@@ -823,6 +870,17 @@ public final class PromisesTest {
         z.evening();
         z.gives(0, 0);
         due.is("24: 2709 last 301 evenings", NONE, z.broke());
+        PaidRests u = due.told("b1;p1n;m1 1;m1 0;w9;f0;", 6);
+        due.is("24: never", NONE, u.broke());
+        for (int i = 0; i < 100; i++) {
+            u.evening();
+        }
+        u.gives(0, 0);
+        due.is("24: 300 saved", 300, u.coins(0, 1));
+        due.is("24: in 301 evenings", NONE, u.broke());
+        u.evening();
+        due.is("24: in 300 evenings", 300, u.broke());
+        due.is("24: it is 1 less than 0", 1, due.told("b1;m1 13;", 2).broke());
     }
 
     private static void rich() {
@@ -840,6 +898,7 @@ public final class PromisesTest {
         x.sleeps(0, 0, 1);
         due.is("25: asleep the first evening: 35", 4, x.rich(31));
         due.is("25: rich(36)", NONE, x.rich(36));
+        due.is("25: asleep the first evening: 5, 15", 2, x.rich(10));
         x.evening();
         due.is("25: all have", 0, x.rich(5));
         due.is("25: rich(6)", 1, x.rich(6));
