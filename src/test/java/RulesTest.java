@@ -86,13 +86,27 @@ public final class RulesTest {
         }
     }
 
+    /** From a method's head to the brace that closes it, which stands just below the head's first letter. */
     private static void methodLengths() throws Exception {
-        int length = 0;
-        for (String line : source().split("\n")) {
-            boolean heads = line.matches("\\s+(public|private|static|final|int|void|boolean|long)\\b.*\\) \\{");
-            length = heads ? 0 : length + 1;
-            due.holds("rule 11: a method stays short, near " + line, length <= 60 || !line.matches("\\s+return.*"));
+        String[] lines = source().split("\n");
+        int methods = 0;
+        for (int i = 0; i < lines.length; i++) {
+            if (!lines[i].matches("\\s+(\\w+(\\[\\])? )*\\w+\\([^()]*\\) \\{") || lines[i].matches("\\s+(if|for|while|switch)\\b.*")) {
+                continue;
+            }
+            String close = lines[i].replaceAll("\\S.*", "") + "}";
+            int end = i;
+            while (end < lines.length - 1 && !lines[end].equals(close)) {
+                end++;
+            }
+            methods++;
+            due.holds("rule 11: " + (end - i + 1) + " lines: " + lines[i], end - i + 1 <= 60);
         }
+        int declared = PaidRests.class.getDeclaredMethods().length;
+        for (Class<?> inner : PaidRests.class.getDeclaredClasses()) {
+            declared += inner.getDeclaredMethods().length;
+        }
+        due.holds("all " + declared + " methods were measured: " + methods, methods >= declared);
     }
 
     /** All of an object is made with it: no call makes anything. */
