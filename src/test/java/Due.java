@@ -13,6 +13,10 @@ final class Due {
         }
     }
 
+    int asked() {
+        return asked;
+    }
+
     void holds(String what, boolean so) {
         is(what, 1, so ? 1 : 0);
     }
