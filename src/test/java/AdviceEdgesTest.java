@@ -122,6 +122,10 @@ public final class AdviceEdgesTest {
         PaidRests x = edge.run("b1;m1 12;", "share(-1)=12");
         edge.is("score of b1;m1 13;", 2, Due.tell(x, "b1;m1 13;"));
         edge.calls(x, "b1;m1 13;", "share(-1)=NONE");
+        // whoever it is: each but one of five needs what he has when just that one plays
+        for (int k = 0; k < 5; k++) {
+            edge.run("b1;p1n;" + "m1 3;".repeat(k) + "m1 0;" + "m1 3;".repeat(4 - k), "share(-1)=0 share(0)=" + k);
+        }
         edge.is("score of b1;x", -13, Due.tell(x, "b1;x"));
         edge.calls(x, "b1;x", "share(-1)=NONE clear()=4 score()=0 share(-1)=NONE");
     }
@@ -182,6 +186,8 @@ public final class AdviceEdgesTest {
         edge.run("b1;p1r;p1r;p1r;p1r;p1n;m1 0;", "gives(0,0)=NONE gives(1,0)=NONE gives(2,0)=NONE gives(4,0)=NONE exchange()=34");
         edge.run("b2;p1nr;p1nn;p1rr;m9 0;m9 0;", "gives(0,0)=NONE gives(1,0)=NONE exchange()=NONE gives(1,1)=0 exchange()=2");
         edge.run("b2;p1nr;p1rr;p1rn;p1rr;m9 0;", "gives(0,0)=NONE gives(2,0)=NONE exchange()=1");
+        edge.run("b1;p1n;p1n;p1n;p1r;p1n;m1 0;m1 0;m1 0;m1 0;m1 0;w13;", "exchange()=NONE gives(0,0)=NONE gives(1,1)=NONE"
+            + " gives(2,2)=NONE gives(3,4)=NONE coins(3,0)=6 coins(4,0)=6 exchange()=34");
         // a later one by which it is more goes ahead of the first: (0, 1) frees one BAR, (1, 2) two
         edge.run("b3;p1nrr;p1rrr;p1rnn;p1rrr;m9 0;", "gives(0,0)=NONE gives(2,0)=NONE exchange()=12");
     }
@@ -213,7 +219,7 @@ public final class AdviceEdgesTest {
         edge.run("b1;p1n;p1n;m1 12;m1 0;", "gives(0,0)=NONE gives(1,1)=NONE leftOut(0,0)=1 sleeps(1,0,1)=0 leftOut(0,0)=NONE");
     }
 
-    /** Bars 0 and 1 would bring player 0 six each, bar 2 twelve. */
+    /** Bars 0 and 1 would bring player 0 six each, bar 2 twelve; of five players three, three, six and twelve. */
     private static void leftOutLeast() {
         edge.sentence("the BARS, as bits, of as few the least");
         int[][] due = {{0, 0, 0}, {1, 1, 1}, {6, 1, 1}, {7, 1, 4}, {12, 1, 4}, {13, 2, 5}, {18, 2, 5}, {19, 3, 7}, {24, 3, 7},
@@ -222,6 +228,17 @@ public final class AdviceEdgesTest {
             edge.run("b3;p1nnn;p1rrn;m9 " + d[0] + ";m9 0;", "gives(0,0)=NONE gives(1,1)=NONE leftOut(0,0)=" + d[1]
                 + " leftOut(0,1)=" + d[2]);
         }
+        int[][] dueOfFive = {{0, 0, 0}, {3, 1, 1}, {4, 1, 4}, {6, 1, 4}, {7, 1, 8}, {12, 1, 8}, {13, 2, 9}, {15, 2, 9}, {16, 2, 12},
+            {18, 2, 12}, {19, 3, 13}, {21, 3, 13}, {22, 4, 15}, {24, 4, 15}, {25, Edges.NONE, Edges.NONE}};
+        for (int[] d : dueOfFive) {
+            edge.run("b4;p1nnnn;p1nnnn;p1rrnn;p1rrnn;p1rrrn;m9 " + d[0] + ";m9 0;m9 0;m9 0;m9 0;", EACH_HAS_HIS
+                + "leftOut(0,0)=" + d[1] + " leftOut(0,1)=" + d[2]);
+        }
+        // the first BAR brings most: 12, the other one 6
+        edge.run("b2;p1nn;p1nr;m9 12;m9 0;", "gives(0,0)=NONE gives(1,1)=NONE leftOut(0,0)=1 leftOut(0,1)=1");
+        // the first BAR brings 1, the other one is cut to nothing
+        edge.run("b2;p1nn;p1nr;m9 1;m9 0;w1;", "gives(0,0)=NONE gives(1,1)=NONE leftOut(0,0)=1 leftOut(0,1)=1");
+        edge.run("b2;p1nn;p1nr;m9 2;m9 0;w1;", "gives(0,0)=NONE gives(1,1)=NONE leftOut(0,0)=NONE leftOut(0,1)=NONE");
     }
 
     private static void leftOutAsleep() {
@@ -331,6 +348,8 @@ public final class AdviceEdgesTest {
         }
         edge.run("b2;p1nn;p1nn;m9 0;m9 0;", "gives(0,0)=NONE gives(1,1)=NONE noted(0,1)=1 who()=3 noted(1,1)=2 who()=3 noted(1,2)=3"
             + " who()=0");
+        edge.run("b2;p1nr;p2rn;m9 0;m9 0;", "gives(0,0)=NONE gives(1,1)=NONE noted(1,2)=1 who()=33 noted(0,1)=2 who()=32 forget()=2"
+            + " noted(0,1)=1 who()=34 noted(1,0)=2 who()=2");
         edge.run("b2;p1nn;p2nn;m9 0;m9 0;", "gives(0,0)=NONE gives(1,1)=NONE noted(0,1)=1 who()=2 noted(1,2)=2 who()=0");
     }
 
@@ -370,6 +389,11 @@ public final class AdviceEdgesTest {
     private static void brokeAsleep() {
         edge.sentence("nobody ASLEEP in any but the first one (as it is)");
         edge.run("b1;p1n;m1 5;f5;", "gives(0,0)=NONE broke()=1 sleeps(0,0,1)=0 broke()=2 player(0,3)=1 now(0)=0 now(3)=2 coins(0,1)=0");
+        // whoever it is: asleep he has 1 more, awake 1 less
+        for (int k = 0; k < 5; k++) {
+            edge.run("b1;p1n;f0;" + "m1 0;".repeat(k) + "m1 1;" + "m1 0;".repeat(4 - k), "gives(0," + k + ")=NONE broke()=1 sleeps("
+                + k + ",0,1)=0 broke()=3");
+        }
         edge.run("b1;p1n;m1 5;f7;", "gives(0,0)=NONE sleeps(0,0,1)=0 broke()=2");
         edge.run("b1;p1n;m1 5;f8;", "gives(0,0)=NONE sleeps(0,0,1)=0 broke()=1");
         edge.run("b1;p1n;m1 0;f5;", "gives(0,0)=NONE rich(1)=NONE sleeps(0,0,1)=0 rich(7)=1 rich(8)=NONE player(0,3)=1");

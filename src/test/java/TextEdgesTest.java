@@ -329,19 +329,41 @@ public final class TextEdgesTest {
         }
     }
 
-    /** Every letter behind b and behind b1. */
+    /** Every letter behind beginnings of ITEMS. */
     private static void anyLetterBehind() {
         edge.sentence("TOKENS are the letters b, p, m, w, f, n, r, NUMBERS and ; (behind others)");
         for (int letter = 0; letter < 256; letter++) {
-            boolean blank = letter == ' ', digit = letter >= '0' && letter <= '9';
-            edge.fault("b" + (char) letter, blank || digit && letter != '0' ? 2 : 1);
-            if (letter == ';') {
-                edge.reads("b1;", 1);
-            } else if (digit) {
-                edge.fault("b1" + (char) letter, letter <= '2' ? 3 : 1);
-            } else {
-                edge.fault("b1" + (char) letter, blank ? 3 : 2);
-            }
+            goesOn("b", letter, "123456789");
+            goesOn("p", letter, "123456789");
+            goesOn("m", letter, "123456789");
+            goesOn("w", letter, "123456789");
+            goesOn("f", letter, "0123456789");
+            goesOn("m1 ", letter, "0123456789");
+            goesOn("b2;p1", letter, "nr");
+            goesOn("b2;p1n", letter, "nr");
+            goesOn("b2;p1n ", letter, "nr");
+            ends("b2", letter);
+            ends("p1rrrrrrrr", letter);
+            ends("m1 0 ", letter);
+            ends("w60 ", letter);
+            ends("f0 ", letter);
+        }
+    }
+
+    /** The letter can stand there, if it is one of those: then the text just ends too early. */
+    private static void goesOn(String ahead, int letter, String which) {
+        boolean stands = letter == ' ' || which.indexOf(letter) >= 0;
+        boolean longer = ahead.endsWith("p1") && letter >= '0' && letter <= '9';
+        edge.fault(ahead + (char) letter, longer ? ahead.length() - 1 : stands ? ahead.length() + 1 : ahead.length());
+    }
+
+    /** Just a ; can stand there; a digit makes another NUMBER of one that is just ahead of it. */
+    private static void ends(String ahead, int letter) {
+        boolean longer = ahead.equals("b2") && letter >= '0' && letter <= '9';
+        if (letter == ';') {
+            edge.reads(ahead + ";", 1);
+        } else {
+            edge.fault(ahead + (char) letter, longer ? 1 : letter == ' ' ? ahead.length() + 1 : ahead.length());
         }
     }
 
