@@ -26,18 +26,21 @@ public final class RefusalTest {
 
     // ---- objects alike
 
-    /** How far an object has come: 0 is new, each later one has more of all that could be changed. */
+    /**
+     * How far an object has come: 0 is new, each later one has more of all that could be changed. What is NOTED
+     * agrees with somebody's sleep, so that who() would tell if it were changed; image 1 is kept from the third on.
+     */
     private static PaidRests come(int far) {
         PaidRests x = new PaidRests();
         if (far >= 1) {
             Due.tell(x, SCORE);
         }
         if (far >= 2) {
-            all(x, "keep(1) gives(0,0) gives(1,1) sleeps(1,1,1) evening() sleeps(0,0,1) noted(1,3) rate(4,1) keep(0) gives(2,2)");
+            all(x, "gives(0,0) gives(1,1) sleeps(1,1,1) evening() sleeps(0,0,1) noted(1,6) rate(4,1) keep(0) gives(2,2)");
         }
         if (far >= 3) {
-            all(x, "evening() evening() evening() evening() evening() sleeps(2,3,1) gives(0,-1) sleeps(1,0,1)"
-                + " noted(0,0) noted(0,1) noted(2,5) noted(3,45) noted(3,0)");
+            all(x, "keep(1) evening() evening() evening() evening() evening() sleeps(2,3,1) gives(0,-1) sleeps(1,0,1)"
+                + " noted(0,1) noted(0,1) noted(2,6) noted(3,1) noted(3,1)");
         }
         for (int i = 0; far >= 2 && i < HALF.length(); i++) {
             x.type(HALF.charAt(i));
@@ -58,7 +61,6 @@ public final class RefusalTest {
     private static List<Long> everything(PaidRests x) {
         List<Long> seen = new ArrayList<>();
         look(x, seen);
-        seen.add((long) x.score());
         for (int i = 0; i < 12; i++) {
             seen.add((long) x.undo());
             look(x, seen);
@@ -67,6 +69,7 @@ public final class RefusalTest {
             seen.add((long) x.back(image));
             look(x, seen);
         }
+        seen.add((long) x.score());
         seen.add((long) x.type(';'));
         seen.add((long) x.score());
         look(x, seen);
@@ -158,6 +161,9 @@ public final class RefusalTest {
             leavesAll(0, "back(" + image + ")", Edges.STATE);
             leavesAll(1, "back(" + image + ")", Edges.STATE);
         }
+        leavesAll(2, "back(1)", Edges.STATE);
+        edge.is("who() of object 2", 1, come(2).who());
+        edge.is("who() of object 3", 33, come(3).who());
         PaidRests with = come(2), without = come(2);
         for (int i = 1; i < 999; i++) {
             edge.is("evening " + i, without.evening(), with.evening());
@@ -196,6 +202,7 @@ public final class RefusalTest {
         edge.sentence("the first of these: BAD .., STATE");
         for (int image : new int[] {-1, 2, Edges.LOW, Edges.HIGH}) {
             leavesAll(0, "back(" + image + ")", Edges.BAD);
+            leavesAll(2, "back(" + image + ")", Edges.BAD);
         }
     }
 
