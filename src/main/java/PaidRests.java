@@ -834,9 +834,14 @@ public final class PaidRests {
         int pay(int m) {
             int pay = -told.fine * Integer.bitCount(duty[m] & ~plays[m]);
             for (int k = 1; k <= told.players; k++) {
-                pay += told.purse / k * Integer.bitCount(resting[k] & ~plays[m]);
+                pay += cutFor(k) * Integer.bitCount(resting[k] & ~plays[m]);
             }
             return pay;
+        }
+
+        /** What a BAR brings to each of so many who REST in it: nobody has anything of one in which nobody does. */
+        int cutFor(int resters) {
+            return resters > 0 ? told.purse / resters : 0;
         }
 
         int payOfAll() {
@@ -957,7 +962,7 @@ public final class PaidRests {
             played = stage.plays[m];
             lack = -stage.gain(m);
             for (int bar = 0; bar < told.bars; bar++) {
-                brings[bar] = told.purse / (stage.restersIn(bar) + 1);
+                brings[bar] = stage.cutFor(stage.restersIn(bar) + 1);
             }
         }
 

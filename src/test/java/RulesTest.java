@@ -4,8 +4,11 @@ import java.lang.reflect.Method;
 import java.lang.reflect.Modifier;
 import java.nio.file.Files;
 import java.nio.file.Path;
+import java.util.ArrayList;
 import java.util.Arrays;
 import java.util.List;
+import java.util.Map;
+import java.util.TreeMap;
 import java.util.TreeSet;
 import java.util.regex.Matcher;
 import java.util.regex.Pattern;
@@ -24,6 +27,10 @@ public final class RulesTest {
         innerNames();
         words();
         methodLengths();
+        divisors();
+        depth();
+        loops();
+        statics();
         room();
         anyArguments();
         due.end("RulesTest");
@@ -86,27 +93,105 @@ public final class RulesTest {
         }
     }
 
-    /** From a method's head to the brace that closes it, which stands just below the head's first letter. */
-    private static void methodLengths() throws Exception {
-        String[] lines = source().split("\n");
-        int methods = 0;
+    /** Each method with its body: from its head to the brace that closes it, which stands just below the head's first letter. */
+    private static List<String[]> methods() throws Exception {
+        String[] lines = source().replaceAll("//[^\n]*", "").split("\n");
+        List<String[]> found = new ArrayList<>();
         for (int i = 0; i < lines.length; i++) {
-            if (!lines[i].matches("\\s+(\\w+(\\[\\])? )*\\w+\\([^()]*\\) \\{") || lines[i].matches("\\s+(if|for|while|switch)\\b.*")) {
+            Matcher head = Pattern.compile("(\\s+)(?:\\w+(?:\\[\\])? )*(\\w+)\\([^()]*\\) \\{").matcher(lines[i]);
+            if (!head.matches() || head.group(2).matches("if|for|while|switch")) {
                 continue;
             }
-            String close = lines[i].replaceAll("\\S.*", "") + "}";
             int end = i;
-            while (end < lines.length - 1 && !lines[end].equals(close)) {
+            while (end < lines.length - 1 && !lines[end].equals(head.group(1) + "}")) {
                 end++;
             }
-            methods++;
-            due.holds("rule 11: " + (end - i + 1) + " lines: " + lines[i], end - i + 1 <= 60);
+            found.add(new String[] {head.group(2), String.join("\n", Arrays.copyOfRange(lines, i, end + 1))});
         }
         int declared = PaidRests.class.getDeclaredMethods().length;
         for (Class<?> inner : PaidRests.class.getDeclaredClasses()) {
             declared += inner.getDeclaredMethods().length;
         }
-        due.holds("all " + declared + " methods were measured: " + methods, methods >= declared);
+        due.holds("all " + declared + " methods were found: " + found.size(), found.size() >= declared);
+        return found;
+    }
+
+    private static void methodLengths() throws Exception {
+        for (String[] method : methods()) {
+            int lines = method[1].split("\n").length;
+            due.holds("rule 11: " + lines + " lines: " + method[0], lines <= 60);
+        }
+    }
+
+    /** What divides is a constant, or the same method looks whether it is 0. */
+    private static void divisors() throws Exception {
+        int found = 0;
+        for (String[] method : methods()) {
+            Matcher divisor = Pattern.compile("[/%]=? *([^;]*)").matcher(method[1]);
+            while (divisor.find()) {
+                found++;
+                String name = divisor.group(1).replaceAll("^(\\w+).*", "$1");
+                boolean constant = name.matches("[A-Z][A-Z_]+|[1-9][0-9]*");
+                boolean tested = name.matches("\\w+") && Pattern.compile("\\b" + name + " (> 0|!= 0|== 0)").matcher(method[1]).find();
+                due.holds("rule 7: divided by " + divisor.group(1) + " in " + method[0], constant || tested);
+            }
+        }
+        due.holds("divisors were found", found > 0);
+    }
+
+    /** Rules 8 and 11: methods of one name are taken for one, so that what is found here is never less than it is. */
+    private static void depth() throws Exception {
+        Map<String, TreeSet<String>> calls = new TreeMap<>();
+        for (String[] method : methods()) {
+            calls.computeIfAbsent(method[0], name -> new TreeSet<>());
+        }
+        for (String[] method : methods()) {
+            Matcher call = Pattern.compile("\\b(\\w+)\\(").matcher(method[1].substring(method[1].indexOf('\n') + 1));
+            while (call.find()) {
+                if (calls.containsKey(call.group(1))) calls.get(method[0]).add(call.group(1));
+            }
+        }
+        for (String name : calls.keySet()) {
+            due.holds("rule 11: how deep calls go from " + name, deepest(calls, name, 1) <= 8);
+        }
+    }
+
+    /** No deeper than nine: so a method that calls itself ends here, too. */
+    private static int deepest(Map<String, TreeSet<String>> calls, String name, int level) {
+        int most = level;
+        for (String next : calls.get(name)) {
+            most = level > 8 ? level : Math.max(most, deepest(calls, next, level + 1));
+        }
+        return most;
+    }
+
+    /** Rule 9, as far as it can be seen so: a loop's head compares something with a bound, and its method counts. */
+    private static void loops() throws Exception {
+        int found = 0;
+        for (String[] method : methods()) {
+            Matcher loop = Pattern.compile("\\b(?:for|while) \\((.*)\\) \\{").matcher(method[1]);
+            while (loop.find()) {
+                found++;
+                boolean counts = Pattern.compile("\\+\\+|--").matcher(method[1]).find();
+                due.holds("rule 9: " + loop.group() + " of " + method[0], counts && loop.group(1).matches(".*[<>]=? \\w.*"));
+            }
+        }
+        due.holds("loops were found", found > 0);
+        due.holds("rule 9: no do", !Pattern.compile("\\bdo \\{").matcher(source()).find());
+    }
+
+    /** Rule 5. */
+    private static void statics() {
+        List<Class<?>> all = new ArrayList<>(Arrays.asList(PaidRests.class.getDeclaredClasses()));
+        all.add(PaidRests.class);
+        for (Class<?> c : all) {
+            for (Field f : c.getDeclaredFields()) {
+                int is = f.getModifiers();
+                due.holds("rule 5: final: " + f, !Modifier.isStatic(is) || Modifier.isFinal(is));
+                due.holds("rule 5: a number or a row of them: " + f, !Modifier.isStatic(is)
+                    || Arrays.asList("int", "long", "boolean", "char", "int[]", "long[]", "char[]").contains(f.getType().getSimpleName()));
+            }
+        }
     }
 
     /** All of an object is made with it: no call makes anything. */
